@@ -122,7 +122,6 @@ public final class RiverText {
     };
 
     private static final int SORTS = 4;
-    private static final int SENSE_STATES = 5;
 
     /**
      * What a SAYING goes on to by a SORT (noun, verb, like, stop), NONE where it makes no sense:
@@ -399,7 +398,8 @@ public final class RiverText {
             if (leastFor(wanted) == NONE) {
                 return NONE;
             }
-            if (arrivals[land.saidOn(from, stream.day + i)] != wanted) {
+            int planned = land.saidOn(from, stream.day + i);
+            if (planned == NONE || arrivals[planned] != wanted) {
                 others++;
             }
         }
@@ -1168,8 +1168,8 @@ public final class RiverText {
             }
         }
 
-        private boolean begins(int so_far, int most) {
-            if (so_far >= most) {
+        private boolean begins(int soFar, int most) {
+            if (soFar >= most) {
                 return tape.fail(TOO_MANY);
             }
             tape.advance();
@@ -1456,12 +1456,12 @@ public final class RiverText {
         void passDay(Country land) {
             int today = day;
             for (int r = 0; r < land.reachCount; r++) {
-                leaving[r] = termAt(land, r, land.lengths[r] - 1);
+                // the last PLACE's cell is the first one's from tomorrow on
+                int cell = cellOf(land, r, land.lengths[r] - 1);
+                leaving[r] = cells[cell];
+                cells[cell] = land.saidOn(r, today);
             }
             day++;
-            for (int r = 0; r < land.reachCount; r++) {
-                put(land, r, 0, land.saidOn(r, today));
-            }
             for (int r = 0; r < land.reachCount; r++) {
                 if (leaving[r] != NONE) {
                     carry(land, leaving[r], land.into[r]);
