@@ -65,7 +65,8 @@ public final class AgainstNaiveTest {
             if (kind < 2) {
                 country(random.nextInt(2));
             } else if (kind < 6) {
-                text(sentence(0), random.nextInt(4) / 3, 200);
+                String outer = random.nextInt(8) > 0 ? "" : pick(List.of("not ", "sense or ", "on ra and ")).repeat(5 + random.nextInt(16));
+                text(outer + sentence(outer.isEmpty() ? 0 : 9), random.nextInt(4) / 3, 200);
                 call("sentence");
             } else if (kind < 12) {
                 text(daybook(), random.nextInt(4) / 3, 400);
