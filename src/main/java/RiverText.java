@@ -9,7 +9,7 @@ public final class RiverText {
     private static final int OTHER_LIVES = -1000;
 
     private static final int TAPE_BYTES = 940;
-    private static final int FED_NUMBERS = 5;
+    private static final int FED_BYTES = 20;
     private static final int COUNTRY_BYTES = 900;
     private static final int DAYBOOK_BYTES = 400;
     private static final int SENTENCE_BYTES = 200;
@@ -143,6 +143,7 @@ public final class RiverText {
     private final Tape tape;
     private final CountryReader countryReader;
     private final Stream stream;
+    /** Where DAYS go by that are only asked about. */
     private final Stream trial;
     private final Acts acts;
     private final Daybook book;
@@ -152,8 +153,9 @@ public final class RiverText {
     private final int[] firstWay;
     private final int[] gains;
     private Country land;
-    private Country spareLand;
     private Sentence rule;
+    /** A text is read into a spare one, since with a FAULT the one there is stays. */
+    private Country spareLand;
     private Sentence spareRule;
     private int firstWayLength;
     private int stonesThrown;
@@ -161,9 +163,9 @@ public final class RiverText {
 
     public RiverText() {
         tape = new Tape();
-        countryReader = new CountryReader(tape);
         land = new Country();
         spareLand = new Country();
+        countryReader = new CountryReader(tape, spareLand);
         stream = new Stream(ALL_DAYS);
         trial = new Stream(0);
         acts = new Acts();
@@ -184,7 +186,7 @@ public final class RiverText {
     }
 
     public int feed(int a, int b, int c, int d, int e) {
-        if (tape.length + FED_NUMBERS * 4 > TAPE_BYTES) {
+        if (tape.length + FED_BYTES > TAPE_BYTES) {
             return NONE;
         }
         tape.take(a);
@@ -758,65 +760,58 @@ public final class RiverText {
                 next++;
             }
             key = NONE;
+            place = next;
             if (next >= limit && length > limit) {
                 kind = BROKEN;
                 place = limit;
-                return;
-            }
-            place = next;
-            if (next >= length) {
+            } else if (next >= length) {
                 kind = END;
-            } else if (isLetter(bytes[next]) || isDigit(bytes[next])) {
-                scanRun();
             } else {
-                kind = isSign(bytes[next]) ? bytes[next] : BROKEN;
-                next++;
+                scanToken();
+            }
+            if (kind == WORD) {
+                findKey();
             }
         }
 
-        private void scanRun() {
+        /** A TOKEN that begins ahead of the limit is read whole. */
+        private void scanToken() {
             int letters = 0;
             int digits = 0;
             word = 0;
             number = 0;
-            while (next < length && (isLetter(bytes[next]) || isDigit(bytes[next]))) {
+            while (next < length) {
                 int c = bytes[next];
-                next++;
-                if (isLetter(c)) {
+                if (c >= 'a' && c <= 'z') {
                     letters++;
                     word = word << 8 | c;
-                } else {
+                } else if (c >= '0' && c <= '9') {
                     digits++;
                     number = number * 10 + c - '0';
+                } else {
+                    break;
                 }
+                next++;
             }
-            if (digits == 0 && letters <= MAX_LETTERS) {
+            if (letters + digits == 0) {
+                int c = bytes[next];
+                boolean isSign = c == ';' || c >= '<' && c <= '>' || c == '(' || c == ')' || c == '.';
+                kind = isSign ? c : BROKEN;
+                next++;
+            } else if (digits == 0 && letters <= MAX_LETTERS) {
                 kind = WORD;
-                key = keyOf(word);
             } else {
                 kind = letters == 0 && digits <= MAX_DIGITS ? NUMBER : BROKEN;
             }
         }
 
-        private static boolean isLetter(int c) {
-            return c >= 'a' && c <= 'z';
-        }
-
-        private static boolean isDigit(int c) {
-            return c >= '0' && c <= '9';
-        }
-
-        private static boolean isSign(int c) {
-            return c == ';' || c == '<' || c == '=' || c == '>' || c == '(' || c == ')' || c == '.';
-        }
-
-        private static int keyOf(long word) {
+        private void findKey() {
             for (int i = 0; i < KEYWORDS.length; i++) {
                 if (KEYWORDS[i] == word) {
-                    return i;
+                    key = i;
+                    return;
                 }
             }
-            return NONE;
         }
 
         /** A FAULT at the TOKEN; false, so that a reader can end with it. */
@@ -1130,9 +1125,12 @@ public final class RiverText {
         int lines;
         long newName;
         int onReach;
+        int who;
+        int term;
 
-        CountryReader(Tape tape) {
+        CountryReader(Tape tape, Country land) {
             this.tape = tape;
+            this.land = land;
         }
 
         boolean readInto(Country fresh) {
@@ -1265,41 +1263,37 @@ public final class RiverText {
             return true;
         }
 
+        /** Somebody's NAME and a TERM's behind it, at which the tape stays for a FAULT of both. */
+        private boolean readWhoAndTerm(int sortOfWho) {
+            who = tape.toldName(land.names, sortOfWho);
+            if (who == NONE) {
+                return false;
+            }
+            tape.advance();
+            term = tape.toldName(land.names, TERM_NAME);
+            return term != NONE;
+        }
+
         private boolean readChange(boolean turns) {
-            if (!begins(land.changeCount, MAX_CHANGES)) {
+            if (!begins(land.changeCount, MAX_CHANGES) || !readWhoAndTerm(EDITOR_NAME)) {
                 return false;
             }
-            int e = tape.toldName(land.names, EDITOR_NAME);
-            if (e == NONE) {
-                return false;
-            }
-            tape.advance();
-            int term = tape.toldName(land.names, TERM_NAME);
-            if (term == NONE) {
-                return false;
-            }
-            if (land.madeBy(e, term) != term) {
+            if (land.madeBy(who, term) != term) {
                 return tape.fail(WRONG_NAME);
             }
             tape.advance();
-            return turns ? readBecomes(e, term) : addStrike(e, term);
-        }
-
-        private boolean addStrike(int e, int term) {
-            land.addChange(e, term, NONE);
-            return true;
-        }
-
-        private boolean readBecomes(int e, int term) {
-            int becomes = tape.toldName(land.names, TERM_NAME);
-            if (becomes == NONE) {
-                return false;
+            int becomes = NONE;
+            if (turns) {
+                becomes = tape.toldName(land.names, TERM_NAME);
+                if (becomes == NONE) {
+                    return false;
+                }
+                if (becomes == term) {
+                    return tape.fail(WRONG_NAME);
+                }
+                tape.advance();
             }
-            if (becomes == term) {
-                return tape.fail(WRONG_NAME);
-            }
-            land.addChange(e, term, becomes);
-            tape.advance();
+            land.addChange(who, term, becomes);
             return true;
         }
 
@@ -1313,22 +1307,13 @@ public final class RiverText {
         }
 
         private boolean readTaste() {
-            if (!begins(land.tasteCount, MAX_TASTES)) {
+            if (!begins(land.tasteCount, MAX_TASTES) || !readWhoAndTerm(TOWN_NAME)) {
                 return false;
             }
-            int t = tape.toldName(land.names, TOWN_NAME);
-            if (t == NONE) {
-                return false;
-            }
-            tape.advance();
-            int term = tape.toldName(land.names, TERM_NAME);
-            if (term == NONE) {
-                return false;
-            }
-            if (land.likes(t, term)) {
+            if (land.likes(who, term)) {
                 return tape.fail(WRONG_NAME);
             }
-            land.addTaste(t, term);
+            land.addTaste(who, term);
             tape.advance();
             return true;
         }
@@ -1420,7 +1405,11 @@ public final class RiverText {
         /** A TERM keeps its cell while it goes down a REACH; the PLACES go round instead, so a DAY moves no rows. */
         private int cellOf(Country land, int r, int place) {
             int length = land.lengths[r];
-            return length > 0 ? r * MAX_LENGTH + Math.floorMod(place - day, length) : 0;
+            if (length <= 0) {
+                return 0;
+            }
+            int round = place - day % length;
+            return r * MAX_LENGTH + (round < 0 ? round + length : round);
         }
 
         int termAt(Country land, int r, int place) {
@@ -1689,8 +1678,12 @@ public final class RiverText {
                 return tape.fail(NO_TOKEN);
             }
             tape.advance();
-            int number = tape.number;
-            return tape.passes(NUMBER) && add(part, sign, number);
+            if (tape.kind != NUMBER) {
+                return tape.fail(NO_TOKEN);
+            }
+            add(part, sign, tape.number);
+            tape.advance();
+            return true;
         }
 
         private boolean add(int part, int sign, int number) {

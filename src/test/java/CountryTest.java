@@ -17,6 +17,7 @@ public final class CountryTest {
         changes();
         townsAndTastes();
         limits();
+        allNames();
         mostBytes();
         whatStays();
         newCountry();
@@ -191,6 +192,31 @@ public final class CountryTest {
         bad(tastes + "taste y c;", tastes.length(), 4);
     }
 
+    /** As many of each as there may be: each NAME is known, each PLACE is there. */
+    private static void allNames() {
+        String text = TEN_TERMS;
+        for (int i = 0; i < 8; i++) {
+            text += "reach r" + (char) ('a' + i) + " 9" + (i > 0 ? " into r" + (char) ('a' + i - 1) : "") + ";";
+        }
+        for (int i = 0; i < 6; i++) {
+            text += "editor e" + (char) ('a' + i) + " rh " + i + ";strike e" + (char) ('a' + i) + " j;";
+            text += "town t" + (char) ('a' + i) + " ra " + (8 - i) + ";taste t" + (char) ('a' + i) + " j;";
+        }
+        text += "says rh a b c d e f g h i;taste tf a;";
+        RiverText x = Due.in(text);
+        int[] due = {10, 8, 6, 6, 6, 7, 0};
+        for (int what = 0; what < due.length; what++) {
+            Due.same("count " + what + " of all", x.count(what), due[what]);
+        }
+        x.days(72);
+        Due.same("each PLACE has a TERM", x.now(1), 72);
+        Due.same("the first TERM at the last PLACE", x.town(0, 2), 0);
+        x.days(9);
+        Due.same("TERMS into the sea", x.now(3), 9);
+        Due.same("a DAYBOOK knows the last NAME", Due.daybook(x, "tf reads f;ef sleeps;", 0), Due.NONE);
+        Due.same("a new COUNTRY has room for them too", Due.country(x, text), 44);
+    }
+
     private static void mostBytes() {
         String blanks = Due.times(893, " ");
         good(blanks + "noun a;", 1);
@@ -251,5 +277,27 @@ public final class CountryTest {
         Due.same("stones stay told", x.stones(), stones);
         Due.same("what was said stays told", x.saidAt(0), Due.RUNS);
         Due.same("the DAYBOOK stays told", x.booked(0), 2);
+        nothingIsLeft(x);
+        x.days(99);
+        Due.same("the same names are new again", Due.country(x, Due.LAND), 19);
+        nothingIsLeft(x);
+    }
+
+    private static void nothingIsLeft(RiverText x) {
+        int[] readNothing = {Due.NONE, 0, 0, Due.NONE};
+        for (int t = 0; t < 3; t++) {
+            for (int what = 2; what <= 5; what++) {
+                Due.same("town " + what + " of a new COUNTRY", x.town(t, what), readNothing[what - 2]);
+            }
+            Due.same("sense of a new COUNTRY", x.sense(t), Due.NONE);
+            Due.same("sayings of a new COUNTRY", x.sayings(t), 0);
+        }
+        for (int what = 3; what <= 4; what++) {
+            Due.same("struck and turned in a new COUNTRY", x.editor(0, what) + x.editor(1, what), 0);
+        }
+        x.days(8);
+        Due.same("all goes as from the first", x.sense(0), Due.NONE);
+        Due.same("SAYINGS", x.sayings(0), 1);
+        Due.same("CLASHES", x.now(2), 3);
     }
 }

@@ -101,6 +101,11 @@ public final class DrawnTest {
             sensible += z.sense(1) == NONE ? 1 : 0;
         }
         Due.same("each seed by itself, beyond the greatest too", y.odds(1, 40, Integer.MAX_VALUE - 3), sensible);
+        for (int seed = 0; seed < 300; seed++) {
+            RiverText z = Due.in("noun a;verb b;stop c;reach r 2;says r a b c;town t r 0;town u r 1;");
+            z.drawn(30, seed);
+            Due.same("in 30 DAYS by " + seed, y.odds(1, 1, seed), z.sense(1) == NONE ? 1 : 0);
+        }
         Due.same("all is as it was", y.now(0), 0);
         RiverText w = Due.in("noun a;verb b;reach r 1;says r a b b;town t r 0;");
         w.days(2);

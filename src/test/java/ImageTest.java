@@ -25,7 +25,7 @@ public final class ImageTest {
     }
 
     private static int[] all(RiverText x) {
-        int[] told = new int[100];
+        int[] told = new int[120];
         int n = 0;
         for (int what = 0; what < 6; what++) {
             told[n++] = x.now(what);
@@ -49,6 +49,10 @@ public final class ImageTest {
             told[n++] = x.sayings(r);
             told[n++] = x.well(r, 11);
             told[n++] = x.said(r);
+            told[n++] = x.reach(r, 1);
+            told[n++] = x.reach(r, 2);
+            told[n++] = x.source(r);
+            told[n++] = x.liked(r, 0, 20);
         }
         told[n++] = x.clashes(50);
         told[n++] = x.odds(2, 40, 3);

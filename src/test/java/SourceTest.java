@@ -65,6 +65,10 @@ public final class SourceTest {
         Due.same("no such TOWN", x.comes(4, 0), -2);
         Due.same("no such TOWN", x.comes(-1, 0), -2);
         Due.same("no ONE SOURCE", Due.in(Due.LAND).comes(1, 0), -2);
+        RiverText y = Due.in("noun a;noun b;reach ra 1;reach rb 1 into ra;reach rc 1 into rb;reach rd 1 into rc;"
+                + "reach re 1 into rd;reach rf 1 into re;reach rg 1 into rf;reach rh 1 into rg;says rh a;"
+                + "editor e ra 0;turn e a b;town t ra 0;");
+        Due.same("the longest way", y.comes(0, 0), 1);
     }
 
     private static void saying() {
