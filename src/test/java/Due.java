@@ -19,13 +19,26 @@ final class Due {
     static final int NONE = RiverText.NONE;
 
     private static int wrong = 0;
+    private static String about = "";
 
     private Due() { }
 
+    /** What comes next is about this promise, or what it rests on, in these words of the document. */
+    static void promise(int number, String words) {
+        about = "Promise " + number + " (" + words + "): ";
+        if (!Doc.says(number, words)) {
+            complain("the document does not say so");
+        }
+    }
+
+    private static void complain(String what) {
+        wrong++;
+        System.out.println(about + what);
+    }
+
     static void same(String what, long got, long want) {
         if (got != want) {
-            wrong++;
-            System.out.println(what + " answered " + got + ", due is " + want);
+            complain(what + " answered " + got + ", due is " + want);
         }
     }
 
@@ -43,8 +56,7 @@ final class Due {
         } catch (NoSuchElementException e) {
             return;
         }
-        wrong++;
-        System.out.println(what + " did not throw");
+        complain(what + " did not throw");
     }
 
     static void lay(RiverText x, byte... bytes) {
@@ -91,8 +103,7 @@ final class Due {
     static RiverText in(String text) {
         RiverText x = new RiverText();
         if (country(x, text) < 0) {
-            wrong++;
-            System.out.println("no COUNTRY (fault " + x.fault() + "): " + text);
+            complain("no COUNTRY (fault " + x.fault() + "): " + text);
         }
         return x;
     }
