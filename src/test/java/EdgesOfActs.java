@@ -17,6 +17,8 @@ final class EdgesOfActs {
         twoPlaces();
         noSuchPlace();
         allThatIsSo();
+        oneForTheOther();
+        sentencesToo();
         nothingIsKept();
         whatStays();
         nothingCanBeUndone();
@@ -30,8 +32,14 @@ final class EdgesOfActs {
         x.days(2);
         Due.same("days()", x.undo(), 0);
         Due.same("DAY", x.now(0), 0);
+        x.days(1);
+        Due.same("one DAY", x.undo(), 0);
+        Due.same("DAY", x.now(0), 0);
         x.drawn(2, 9);
         Due.same("drawn()", x.undo(), 0);
+        Due.same("DAY", x.now(0), 0);
+        x.drawn(1, 9);
+        Due.same("one DAY drawn", x.undo(), 0);
         Due.same("DAY", x.now(0), 0);
         x.wake(0, 0);
         Due.same("wake()", x.undo(), 0);
@@ -167,15 +175,15 @@ final class EdgesOfActs {
 
     private static void twoPlaces() {
         Due.promise(42, "COUNTRY, all that is so and the SENTENCE are kept in place k (0, 1): true;");
-        RiverText x = Due.in(Due.LAND);
+        RiverText x = Due.in("noun a;noun b;reach r 2;says r a b;editor e r 1;turn e b a;town t r 1;taste t b;");
         x.days(11);
         x.wake(0, 0);
-        Due.sentence(x, "on main");
+        Due.sentence(x, "words > 9");
         List<Integer> first = Told.by(x);
         Due.yes("image(0)", x.image(0));
         Told.alike("an image changes nothing", Told.by(x), first);
         Due.same("acts stay", x.undo(), 1);
-        Due.country(x, "noun a;reach r 1;says r a;town t r 0;");
+        Due.country(x, "noun a;reach r 1;");
         x.days(3);
         List<Integer> second = Told.by(x);
         Due.yes("image(1)", x.image(1));
@@ -189,11 +197,9 @@ final class EdgesOfActs {
         List<Integer> third = Told.by(x);
         x.restore(1);
         Told.alike("place 1 still", Told.by(x), second);
-        x.restore(0);
-        Told.alike("place 0 anew", Told.by(x), third);
         x.days(1);
         x.restore(0);
-        Told.alike("place 0 once more", Told.by(x), third);
+        Told.alike("place 0 anew", Told.by(x), third);
     }
 
     private static void noSuchPlace() {
@@ -217,21 +223,78 @@ final class EdgesOfActs {
         Due.sentence(x, "not sense or words < 20");
         x.image(1);
         List<Integer> told = Told.by(x);
-        int[] reads = new int[90];
-        for (int i = 0; i < 90; i++) {
-            reads[i] = x.well(i / 30, i % 30);
+        int[] reads = new int[30];
+        for (int day = 0; day < 30; day++) {
+            reads[day] = x.well(day % 3, day);
         }
         Due.country(x, Texts.fullOfAll());
         x.days(99);
         Due.sentence(x, "number = 0");
         x.restore(1);
         Told.alike("all", Told.by(x), told);
-        for (int i = 0; i < 90; i++) {
-            Due.same("well(" + i / 30 + ", " + i % 30 + ")", x.well(i / 30, i % 30), reads[i]);
+        for (int day = 0; day < 30; day++) {
+            Due.same("on DAY " + day, x.well(day % 3, day), reads[day]);
         }
         Due.same("not yet", x.well(0, 30), -2);
-        Due.yes("names", Due.daybook(x, "mo wakes;day 9;tc reads fish;", 0) >= NONE);
+        Due.same("a SENTENCE", Due.sentence(x, "on main"), 1);
+        Due.same("a REACH's NAME", x.said(NONE), 2);
+        Due.same("a REACH's NAME", x.said(0), 1);
+        Due.same("an EDITOR's NAME", Due.daybook(x, "mo wakes;ed sleeps;mo wakes;", 0), 2);
         Due.same("no names of the other one", Due.daybook(x, "ts reads a;", 0), -2);
+    }
+
+    private static void oneForTheOther() {
+        Due.promise(43, "They are as kept in place k");
+        for (int k = 0; k < 2; k++) {
+            RiverText x = living(Texts.fullOfAll());
+            x.image(0);
+            Due.country(x, Due.LAND);
+            x.days(20);
+            x.image(1);
+            for (int i = 0; i < 4; i++) {
+                Due.yes("restore()", x.restore((i + k) % 2));
+            }
+            RiverText twin = k == 0 ? Due.in(Due.LAND) : living(Texts.fullOfAll());
+            if (k == 0) {
+                twin.days(20);
+            }
+            Told.alike("what is kept in place " + (1 - k), Told.by(x), Told.by(twin));
+        }
+        RiverText x = living(Texts.fullOfAll());
+        x.image(0);
+        Due.country(x, Due.LAND);
+        x.restore(0);
+        Due.same("the last NAMES", Due.daybook(x, "x wakes;tx reads none;w wakes;", 0), 2);
+    }
+
+    private static RiverText living(String land) {
+        RiverText x = Due.in(land);
+        x.days(30);
+        x.wake(5, 0);
+        return x;
+    }
+
+    private static void sentencesToo() {
+        Due.promise(42, "and the SENTENCE are kept");
+        String[] sentences = {"number > 1", "number < 1", "number = 1", "reads old", "on up", "words > 6 and not at > 1",
+            "reads runs and number > 0"};
+        int[] whose = {2, 0, 1, 1, 0, 0, 2};
+        for (int i = 0; i < sentences.length; i++) {
+            RiverText x = Due.in(Due.LAND);
+            x.days(8);
+            for (int k = 0; k < sentences.length; k++) {
+                Due.sentence(x, sentences[i]);
+                x.image(0);
+                Due.sentence(x, sentences[k]);
+                x.image(1);
+                x.restore(0);
+                Due.same(sentences[i] + " kept: how many", x.said(NONE), 1);
+                Due.same(sentences[i] + " kept", x.said(0), whose[i]);
+                x.restore(1);
+                Due.same(sentences[k] + " kept: how many", x.said(NONE), 1);
+                Due.same(sentences[k] + " kept", x.said(0), whose[k]);
+            }
+        }
     }
 
     private static void nothingIsKept() {

@@ -125,16 +125,16 @@ final class EdgesOfBooks {
 
     private static void nothingIsLivedByAFault() {
         Due.promise(38, "-2 less the place of a FAULT;");
-        RiverText x = Due.in(Due.LAND);
-        x.days(2);
-        Due.daybook(x, "day 1;?", 0);
         for (int lives = 0; lives < 2; lives++) {
+            RiverText x = Due.in(Due.LAND);
+            x.days(2);
+            Due.daybook(x, "day 1;?", 0);
             int lived = lives;
             Told.stays("a FAULT behind good LINES", x, () ->
                     Due.same("daybook()", Due.daybook(x, "day 3;ed sleeps;?", lived), -2 - 16));
+            Due.same("the kind", x.fault(), 1);
+            Due.same("just one act", x.undo(), 0);
         }
-        Due.same("the kind", x.fault(), 1);
-        Due.same("just one act", x.undo(), 0);
     }
 
     private static void lessThePlace() {
@@ -177,11 +177,11 @@ final class EdgesOfBooks {
 
     private static void theLineThatIsWrong() {
         Due.promise(38, "the LINE that is WRONG (from 0); NONE: none;");
-        RiverText x = Due.in(Due.LAND);
         for (int ahead = 0; ahead < 30; ahead++) {
             String book = Due.times(ahead, "day 1;") + "ed wakes;";
-            Due.same(ahead + " LINES ahead", Due.daybook(x, book, 0), ahead);
+            Due.same(ahead + " LINES ahead", Due.daybook(Due.in(Due.LAND), book, 0), ahead);
         }
+        RiverText x = Due.in(Due.LAND);
         Due.same("none", Due.daybook(x, "", 0), NONE);
         Due.same("none", Due.daybook(x, "ed sleeps;", 0), NONE);
         Due.same("the first of two", Due.daybook(x, "day 1;ed wakes;mo wakes;", 0), 1);
@@ -268,8 +268,8 @@ final class EdgesOfBooks {
 
     private static void linesAhead() {
         Due.promise(39, "1 how many LINES are ahead of the one that is WRONG (all, if none is)");
-        RiverText x = Due.in(Due.LAND);
         for (int ahead = 0; ahead <= 29; ahead++) {
+            RiverText x = Due.in(Due.LAND);
             Due.daybook(x, Due.times(ahead, "day 1;") + "ed wakes;", 0);
             Due.same("booked(1)", x.booked(1), ahead);
             Due.daybook(x, Due.times(ahead, "day 1;"), 0);

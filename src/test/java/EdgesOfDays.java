@@ -181,21 +181,22 @@ final class EdgesOfDays {
 
     private static void daysAreKept() {
         Due.promise(17, "DAYS 0 to 399; what was read on each is kept.");
-        RiverText x = Due.in(Texts.TEN_TERMS + "reach r 1;says r a b c d e f g h i j;reach q 2;says q j a i;"
-                + "town t r 0;town u q 0;town v q 1;town w r 0;town y q 1;town z r 0;");
-        for (int i = 0; i < 5; i++) {
-            x.days(80);
-        }
         int[] ofQ = {9, 0, 8};
-        for (int day = 0; day < 400; day++) {
-            Due.same("t on DAY " + day, x.well(0, day), day % 10);
-            Due.same("u on DAY " + day, x.well(1, day), ofQ[day % 3]);
-            Due.same("v on DAY " + day, x.well(2, day), day == 0 ? NONE : ofQ[(day - 1) % 3]);
-            Due.same("z on DAY " + day, x.well(5, day), day % 10);
+        for (int t = 0; t < 6; t++) {
+            RiverText x = Due.in(Texts.TEN_TERMS + "reach r 1;says r a b c d e f g h i j;reach q 2;says q j a i;"
+                    + "town t r 0;town u q 0;town v q 1;town w r 0;town y q 1;town z r 0;");
+            for (int i = 0; i < 5; i++) {
+                x.days(80);
+            }
+            boolean isOnR = t % 3 == 0 || t == 5;
+            int later = t == 1 ? 0 : 1;
+            for (int day = 0; day < 400; day++) {
+                int due = isOnR ? day % 10 : day < later ? NONE : ofQ[(day - later) % 3];
+                Due.same("TOWN " + t + " on DAY " + day, x.well(t, day), due);
+            }
+            Due.same("TERMS read", x.town(t, 3), isOnR ? 400 : 400 - later);
+            Due.same("there is no DAY 400", x.well(t, 400), -2);
         }
-        Due.same("TERMS read", x.town(0, 3), 400);
-        Due.same("TERMS read", x.town(4, 3), 399);
-        Due.same("there is no DAY 400", x.well(0, 400), -2);
     }
 
     private static void ofNow() {
@@ -432,7 +433,7 @@ final class EdgesOfDays {
         for (String sorts : whole) {
             Due.same("sense of " + sorts, reading(sorts).sense(0), NONE);
         }
-        String[] broken = {"v", "s", "nn", "nl", "ns", "lv", "ls", "nvv", "nvlv", "nvls", "nvnn", "nvnv", "nvnl", "nvss",
+        String[] broken = {"v", "s", "nn", "nl", "ns", "lv", "ls", "nvv", "nvlv", "nvls", "nvlls", "nvllv", "nvnn", "nvnv", "nvnl", "nvss",
             "nvsv", "nvsnn", "nvslv", "nvnsnn", "nvlnv", "nvlnl"};
         for (String sorts : broken) {
             Due.same("sense of " + sorts, reading(sorts).sense(0), sorts.length() - 1);

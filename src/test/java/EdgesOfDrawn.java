@@ -156,16 +156,16 @@ final class EdgesOfDrawn {
         int[] seeds = {3, 9, 2, 70};
         RiverText other = Due.in("reach r 1;");
         for (int seed : seeds) {
-            river.drawn(50, seed);
-            int stones = liveAsDrawn(other, 50, seed);
+            river.drawn(30, seed);
+            int stones = liveAsDrawn(other, 30, seed);
             Due.same("stones by " + seed, river.stones(), stones);
             river.drawn(0, seed);
             river.drawn(100, seed);
             Due.same("drawn() that was NONE leaves them", river.stones(), stones);
         }
-        river.days(99);
-        river.days(99);
-        river.days(99);
+        for (int i = 0; i < 3; i++) {
+            river.days(99);
+        }
         int told = river.stones();
         Due.yes("some", told > 0);
         Due.same("none is left", river.drawn(9, 1), 0);

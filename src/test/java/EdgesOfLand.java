@@ -181,6 +181,10 @@ final class EdgesOfLand {
             Due.same("makes(0, " + t + ")", x.makes(0, t), due[t]);
             Due.same("makes(1, " + t + ")", x.makes(1, t), t);
         }
+        x.wake(0, 0);
+        for (int t = 0; t < due.length; t++) {
+            Due.same("asleep, makes(0, " + t + ")", x.makes(0, t), due[t]);
+        }
     }
 
     private static void makesNone() {
@@ -305,6 +309,8 @@ final class EdgesOfLand {
         RiverText x = Due.in("reach a 3;reach b 2 into a;reach c 2 into a;town t a 1;town u b 0;");
         Due.same("behind it", x.flows(0, 2, 0), NONE);
         Due.same("behind it, above", x.flows(1, 1, 1), NONE);
+        Due.same("far behind it", Due.in("reach a 9;town t a 0;").flows(0, 8, 0), NONE);
+        Due.same("far behind it", Due.in("reach a 9;town t a 5;").flows(0, 7, 0), NONE);
         Due.same("below", x.flows(0, 0, 1), NONE);
         Due.same("beside", x.flows(2, 0, 1), NONE);
         Due.same("no such REACH", x.flows(3, 0, 0), NONE);

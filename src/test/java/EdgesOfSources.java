@@ -68,6 +68,13 @@ final class EdgesOfSources {
                 Due.same("comes(" + t + ", " + term + ")", x.comes(t, term), ROWS[t][term]);
             }
         }
+        String eight = "noun a;noun b;reach k 3;";
+        for (char c = 'l'; c <= 'r'; c++) {
+            eight += "reach " + c + " 3 into " + (char) (c - 1) + ";";
+        }
+        RiverText y = Due.in(eight + "says r a;editor e k 2;turn e a b;town t k 2;town u k 1;");
+        Due.same("down eight REACHES, past an EDITOR there", y.comes(0, 0), 1);
+        Due.same("down eight REACHES, short of it", y.comes(1, 0), 0);
         x.days(20);
         int[] said = {0, 2, 3};
         int[] later = {0, 1, 2, 3, 4};

@@ -26,6 +26,7 @@ final class EdgesOfTexts {
         leftByAnotherLives();
         noFault();
         newCountry();
+        oneBehindAnother();
         toldLastStays();
     }
 
@@ -83,6 +84,10 @@ final class EdgesOfTexts {
         Texts.bad("reach q 1;reach r ^1into q;", 1);
         Texts.bad("noun ab;noun ^ab1;", 1);
         Texts.bad("reach r ^12a4;", 1);
+        Texts.bad("noun a ^a1;", 1);
+        Texts.bad("noun a ^1a;", 1);
+        Texts.bad("noun a ^1;", 1);
+        Texts.bad("noun a;^1a;", 1);
     }
 
     private static void bytesOfACountry() {
@@ -123,6 +128,16 @@ final class EdgesOfTexts {
             Texts.bad(text + "^", 1);
         }
         Texts.bad("noun a" + Texts.blanks(894) + "^", 1);
+        RiverText x = new RiverText();
+        for (int n = 6; n < 12; n++) {
+            // noun abcdef  ;  what is cut off is not read
+            x.feed(0x6e6f756e, 0x20616263, 0x64656620, 0x203b2020, 0x20202020);
+            x.end(n);
+            Due.same("the end of " + n + " bytes", x.country(), -1 - n);
+        }
+        x.feed(0x6e6f756e, 0x20616263, 0x64656667, 0x683b2020, 0x20202020);
+        x.end(12);
+        Due.same("the end of 12 bytes", x.country(), -13);
     }
 
     private static void lines() {
@@ -222,22 +237,24 @@ final class EdgesOfTexts {
 
     private static void itStays() {
         Due.promise(4, "place of a FAULT: it stays.");
+        String[] faulty = {"noun A;", "noun zz;noun yy;reach r 0;", Due.LAND + "noun king;", "says up king;", ";"};
+        int[] kinds = {1, 2, 3, 3, 1};
+        for (int i = 0; i < faulty.length; i++) {
+            itStaysBy(faulty[i], kinds[i]);
+        }
+    }
+
+    private static void itStaysBy(String faulty, int kind) {
         RiverText x = Due.in(Due.LAND);
         x.days(8);
         Due.sentence(x, "on main");
         x.wake(1, 0);
-        String[] faulty = {"noun A;", "noun zz;noun yy;reach r 0;", Due.LAND + "noun king;", "says up king;", ";"};
-        int[] kinds = {1, 2, 3, 3, 1};
-        for (int i = 0; i < faulty.length; i++) {
-            String text = faulty[i];
+        Due.country(x, ";");
+        Told.stays(faulty, x, () -> {
+            Due.country(x, faulty);
+            Due.same("the kind of the FAULT", x.fault(), kind);
             Due.country(x, ";");
-            Told.stays(text, x, () -> {
-                Due.country(x, text);
-                Due.country(x, ";");
-            });
-            Due.country(x, text);
-            Due.same("the kind of the FAULT", x.fault(), kinds[i]);
-        }
+        });
         Due.same("the SENTENCE stays", x.said(NONE), 2);
         Due.same("names stay", Due.daybook(x, "mo wakes;ta reads runs;", 0), NONE);
         Due.same("a name of the refused one is not told", Due.sentence(x, "reads zz"), -7);
@@ -316,6 +333,33 @@ final class EdgesOfTexts {
         Due.country(x, "");
         Due.same("an empty one: the next DAY", x.now(0), 0);
         Due.same("an empty one: nothing can be undone", x.undo(), NONE);
+    }
+
+    private static void oneBehindAnother() {
+        Due.promise(4, "The tape (empty then, with a FAULT, too, here and below) is the COUNTRY now:");
+        String[] lands = {Due.LAND, Texts.fullOfAll(), "noun z;noun y;reach r 9;reach q 3;reach p 1;says p y;editor e r 0;"
+            + "editor f q 0;town t r 0;town s p 0;town u q 0;", "stop a;reach r 1;reach q 1 into r;town t r 0;", ""};
+        for (int i = 0; i < 50; i++) {
+            RiverText x = new RiverText();
+            Due.country(x, lands[i % 5]);
+            x.days(15);
+            if (i % 2 == 0) {
+                Due.country(x, lands[i % 3] + "?");
+            }
+            Due.country(x, lands[i / 5 % 5]);
+            x.days(15);
+            if (i % 3 == 0) {
+                Due.country(x, lands[i % 4] + "noun");
+            }
+            RiverText fresh = new RiverText();
+            String last = lands[(i / 25 + i) % 5];
+            Due.same("LINES", Due.country(x, last), Due.country(fresh, last));
+            if (i >= 25) {
+                x.days(15);
+                fresh.days(15);
+            }
+            Told.alike("it is as by a new object", Told.by(x), Told.by(fresh));
+        }
     }
 
     private static void toldLastStays() {

@@ -26,7 +26,7 @@ public final class RoomTest {
         callAll(x);
         ThreadMXBean bean = (ThreadMXBean) ManagementFactory.getThreadMXBean();
         long before = bean.getCurrentThreadAllocatedBytes();
-        for (int i = 0; i < 20; i++) {
+        for (int i = 0; i < 9; i++) {
             callAll(x);
         }
         Due.yes("calls make nothing", bean.getCurrentThreadAllocatedBytes() - before < BYTES_OF_NOTHING);

@@ -18,40 +18,49 @@ final class Told {
         }
         told.add(x.fault());
         told.add(x.stones());
+        told.add(x.clashes(9));
         land(x, told);
         people(x, told);
         return told;
     }
 
     private static void land(RiverText x, List<Integer> told) {
-        for (int t = 0; t < x.count(0); t++) {
+        int terms = x.count(0);
+        for (int t = 0; t < terms; t++) {
             told.add(x.term(t));
         }
-        for (int r = 0; r < x.count(1); r++) {
+        int reaches = x.count(1);
+        for (int r = 0; r < reaches; r++) {
             for (int what = 0; what < 5; what++) {
                 told.add(x.reach(r, what));
             }
-            for (int place = 0; place < x.reach(r, 0); place++) {
+            int length = told.get(told.size() - 5);
+            for (int place = 0; place < length; place++) {
                 told.add(x.at(r, place));
             }
         }
     }
 
     private static void people(RiverText x, List<Integer> told) {
-        for (int e = 0; e < x.count(2); e++) {
+        int editors = x.count(2);
+        for (int e = 0; e < editors; e++) {
             for (int what = 0; what < 5; what++) {
                 told.add(x.editor(e, what));
                 told.add(x.makes(e, what));
             }
         }
-        for (int t = 0; t < x.count(4); t++) {
+        int towns = x.count(4);
+        int day = x.now(0);
+        for (int t = 0; t < towns; t++) {
             for (int what = 0; what < 6; what++) {
                 told.add(x.town(t, what));
             }
+            told.add(x.source(t));
+            told.add(x.liked(t, 0, 9));
             told.add(x.sense(t));
             told.add(x.sayings(t));
             told.add(x.well(t, 0));
-            told.add(x.well(t, x.now(0) - 1));
+            told.add(x.well(t, day - 1));
         }
     }
 
